@@ -19,7 +19,8 @@ public final class GoalDesk {
     private static final int FIRST_ROWS = 128;
 
     private static final int NONE = -1;
-    private static final int FREE = Integer.MIN_VALUE;
+    // Below ~number of every variable.
+    private static final int FREE = -2147483648;
 
     private static final char CUT = '!';
     private static final char CALL = '(';
@@ -263,7 +264,7 @@ public final class GoalDesk {
 
         private boolean readClause(char[] from, int length, Clause clause) {
             begin(from, length, clause);
-            if (!readCall()) {
+            if (!isSmall(here()) || !readTerm(1)) {
                 return false;
             }
             if (at < end && !(skip(':') && readGoals())) {
@@ -295,7 +296,7 @@ public final class GoalDesk {
         }
 
         private boolean skip(char c) {
-            if (here() != c) {
+            if (at >= end || text[at] != c) {
                 return false;
             }
             at++;
@@ -337,15 +338,11 @@ public final class GoalDesk {
             }
             at++;
             int right = into.start + at;
-            if (!(sign == SLEEP ? readCall() : readTerm(1))) {
+            if (sign == SLEEP && !isSmall(here()) || !readTerm(1)) {
                 return false;
             }
             into.putGoal(sign, left, right);
             return true;
-        }
-
-        private boolean readCall() {
-            return isSmall(here()) && readTerm(1);
         }
 
         private boolean readTerm(int depth) {
@@ -672,27 +669,29 @@ public final class GoalDesk {
 
         /** Tests those waiting, from this one on, until one fails. */
         private boolean hold(int from) {
-            for (int i = from; i < made; i++) {
-                if (waits[i] && !test(i)) {
-                    return false;
+            boolean well = true;
+            for (int i = from; i < made && well; i++) {
+                if (waits[i]) {
+                    int kept = variables.boundCount;
+                    pairs.open = 0;
+                    pairs.put(left[i], right[i]);
+                    boolean same = pairs.makeSame(true);
+                    well = !same || variables.boundCount > kept;
+                    variables.free(kept);
+                    if (!same) {
+                        settle(i);
+                    }
                 }
             }
-            return true;
+            return well;
         }
 
-        private boolean test(int i) {
-            int kept = variables.boundCount;
-            pairs.open = 0;
-            pairs.put(left[i], right[i]);
-            boolean same = pairs.makeSame(true);
-            boolean hasBound = variables.boundCount > kept;
-            variables.free(kept);
-            if (!same && settledCount < MOST_STEPS) {
+        private void settle(int i) {
+            if (settledCount < MOST_STEPS) {
                 waits[i] = false;
                 settled[settledCount] = i;
                 settledCount++;
             }
-            return !same || hasBound;
         }
 
         private void goBack(int keptMade, int keptSettled) {
