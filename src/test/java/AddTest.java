@@ -5,6 +5,7 @@ public final class AddTest {
         clausesComeLast(due);
         rightTexts(due);
         wrongTexts(due);
+        shorterTexts(due);
         twelveAreThere(due);
         whatIsAskedAfterAdd(due);
         due.end();
@@ -91,6 +92,18 @@ public final class AddTest {
         b.count(0, place);
     }
 
+    /** What an earlier, longer text left behind its end is no part of a text. */
+    private static void shorterTexts(Due due) {
+        Bench b = new Bench(due, "a(1):b,c");
+        b.add("a(1", Bench.BAD);
+        b.count(0, 3);
+        b.add("a(1):b,", Bench.BAD);
+        b.count(0, 7);
+        b.add("a", "2");
+        b.ask("a", "1");
+        b.ask("a(1)", Bench.NONE);
+    }
+
     private static void twelveAreThere(Due due) {
         Bench b = new Bench(due, "p(1)", "p(2)", "a", "a", "a", "a", "a", "a", "a", "a", "a", "a");
         b.add("q(", Bench.STATE);
@@ -104,7 +117,7 @@ public final class AddTest {
         b.next("3");
         b.value('X', "2");
         b.next(Bench.NONE);
-        b.drop(0, "0");
+        b.drop(0, "gone");
         b.add("q(", Bench.BAD);
         b.count(0, 2);
         b.add("p(3)", "12");

@@ -264,5 +264,15 @@ public final class AskTest {
         b.value('Z', "_");
         b.counts(3, 0, 1, 6);
         b.next(Bench.NONE);
+        Bench c = new Bench(due, "c(2)", "c(1)", "c(3)");
+        c.ask("X~1,c(X)", "5");
+        c.counts(1, 1, 0, 1);
+        c.next("9");
+        c.value('X', "3");
+        c.counts(2, 0, 0, 1);
+        // What was settled before the choice stays so.
+        c.ask("X~1,X=2,c(Y)", "7");
+        c.next("8");
+        c.counts(2, 1, 0, 2);
     }
 }

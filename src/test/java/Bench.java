@@ -1,13 +1,18 @@
+import java.util.function.LongSupplier;
+
 /** A new GoalDesk, with calls told as texts and answers compared with those due. */
 final class Bench {
     static final String BAD = "throws.IllegalArgumentException";
     static final String NONE = "throws.NoSuchElementException";
     static final String STATE = "throws.IllegalStateException";
     static final String UNFIT = "throws.UnsupportedOperationException";
+    // Nothing is promised of later calls, so a test may not look at them.
+    private static final int MOST_CALLS = 512;
 
-    final GoalDesk desk = new GoalDesk();
+    private final GoalDesk desk = new GoalDesk();
     private final Due due;
     private String last = "new";
+    private int calls = 0;
 
     Bench(Due due, String... clauses) {
         this.due = due;
@@ -25,66 +30,89 @@ final class Bench {
         return number;
     }
 
-    void same(String what, String got, String wanted) {
+    private String call(LongSupplier one) {
+        calls++;
+        if (calls == MOST_CALLS + 1) {
+            due.same("(after " + last + ") the test", "more than 512 calls", "512 calls at most");
+        }
+        return Due.answer(one);
+    }
+
+    private void same(String what, String got, String wanted) {
         due.same("(after " + last + ") " + what, got, wanted);
     }
 
     void type(long eight, String wanted) {
-        same("type(" + eight + ")", Due.answer(() -> desk.type(eight)), wanted);
+        same("type(" + eight + ")", call(() -> desk.type(eight)), wanted);
     }
 
     void type(String text) {
         for (int from = 0; from < text.length(); from += 8) {
-            desk.type(eight(text.substring(from)));
+            long eight = eight(text.substring(from));
+            call(() -> desk.type(eight));
         }
     }
 
     void add(String text, String wanted) {
         type(text);
         last = "add " + text;
-        same("add()", Due.answer(desk::add), wanted);
+        same("add()", call(desk::add), wanted);
     }
 
+    /** The answer due for a drop that is done is "gone". */
     void drop(int i, String wanted) {
         last = "drop " + i;
-        same("drop", Due.answer(() -> { desk.drop(i); return 0; }), wanted);
+        String got = call(() -> {
+            desk.drop(i);
+            return 0;
+        });
+        same("drop", got.equals("0") ? "gone" : got, wanted);
     }
 
     void ask(String text, String wanted) {
         type(text);
         last = "ask " + text;
-        same("ask()", Due.answer(desk::ask), wanted);
+        same("ask()", call(desk::ask), wanted);
     }
 
     void next(String wanted) {
-        same("next()", Due.answer(desk::next), wanted);
+        same("next()", call(desk::next), wanted);
         last = last.endsWith(" next") ? last : last + " next";
     }
 
     void letter(int v, int i, String wanted) {
-        same("letter(" + v + ", " + i + ")", Due.answer(() -> desk.letter(v, i)), wanted);
+        same("letter(" + v + ", " + i + ")", call(() -> desk.letter(v, i)), wanted);
+    }
+
+    void letter(int v, int i, char wanted) {
+        letter(v, i, String.valueOf((int) wanted));
     }
 
     void value(char v, String wanted) {
-        StringBuilder got = new StringBuilder();
-        String length = Due.answer(() -> desk.letter(v - 'A', -1));
+        String length = call(() -> desk.letter(v - 'A', -1));
         if (length.startsWith("throws")) {
             same("the value of " + v, length, wanted);
             return;
         }
+        StringBuilder got = new StringBuilder();
         for (int i = 0; i < Integer.parseInt(length); i++) {
-            got.append((char) desk.letter(v - 'A', i));
+            int at = i;
+            got.append((char) Integer.parseInt(call(() -> desk.letter(v - 'A', at))));
         }
         same("the value of " + v, got.toString(), wanted);
         letter(v - 'A', got.length(), NONE);
     }
 
+    void sleeping(int v, String wanted) {
+        same("sleeping(" + v + ")", call(() -> desk.sleeping(v)), wanted);
+    }
+
     void sleeping(char v, int wanted) {
-        same("sleeping on " + v, Due.answer(() -> desk.sleeping(v - 'A')), String.valueOf(wanted));
+        sleeping(v - 'A', String.valueOf(wanted));
     }
 
     void count(int what, int wanted) {
-        same("count(" + what + ")", Due.answer(() -> desk.count(what)), String.valueOf(wanted));
+        same("count(" + what + ")", call(() -> desk.count(what)), String.valueOf(wanted));
     }
 
     void counts(int answers, int choices, int aparts, int variables) {

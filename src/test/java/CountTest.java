@@ -31,7 +31,7 @@ public final class CountTest {
         b.count(2, 1);
         b.add("c", "2");
         b.count(2, 2);
-        b.drop(0, "0");
+        b.drop(0, "gone");
         b.count(2, 1);
     }
 
@@ -53,7 +53,7 @@ public final class CountTest {
         b.counts(1, 2, 0, 2);
         b.add("p(", Bench.BAD);
         b.counts(1, 2, 0, 2);
-        b.drop(4, "0");
+        b.drop(4, "gone");
         b.counts(0, 0, 0, 0);
     }
 

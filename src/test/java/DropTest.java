@@ -13,7 +13,7 @@ public final class DropTest {
     private static void dropped(Due due, int i, String first, String second) {
         Bench b = new Bench(due, "p(1)", "p(2)", "p(3)");
         b.ask("p(X)", "2");
-        b.drop(i, "0");
+        b.drop(i, "gone");
         b.next(Bench.NONE);
         b.counts(0, 0, 0, 0);
         b.count(2, 2);
@@ -34,17 +34,17 @@ public final class DropTest {
         b.count(2, 2);
         b.next("3");
         b.value('X', "2");
-        b.drop(1, "0");
+        b.drop(1, "gone");
         b.drop(1, Bench.BAD);
-        b.drop(0, "0");
+        b.drop(0, "gone");
         b.drop(0, Bench.BAD);
         b.count(2, 0);
     }
 
     private static void roomIsUsedAgain(Due due) {
         Bench b = new Bench(due, "p(1)", "p(f(X,Y)):X=Y");
-        for (int i = 0; i < 60; i++) {
-            b.drop(0, "0");
+        for (int i = 0; i < 40; i++) {
+            b.drop(0, "gone");
             b.add(i % 2 == 0 ? "p(1)" : "p(f(X,Y)):X=Y", "2");
             b.ask("p(f(Z,1))", i % 2 == 0 ? "6" : "7");
             b.value('Z', "1");

@@ -17,7 +17,7 @@ public final class LetterTest {
         b.value('Y', "2");
         b.value('Z', "_");
         b.value('C', Bench.NONE);
-        b.letter(0, 1, String.valueOf((int) '('));
+        b.letter(0, 1, '(');
         b.letter(25, -1, "1");
     }
 
@@ -25,19 +25,19 @@ public final class LetterTest {
         Bench b = new Bench(due, "e(X,Y):X=f(Y,Y)", "g(X,Y):X=f(Y,1,2)");
         b.ask("X=f(X)", "2");
         b.letter(23, -1, "80");
-        b.letter(23, 79, String.valueOf((int) '('));
+        b.letter(23, 79, '(');
         b.letter(23, 80, Bench.NONE);
         b.ask("X=f(1,X)", "2");
         b.letter(23, -1, "80");
         b.letter(23, 78, "49");
-        b.letter(23, 79, String.valueOf((int) ','));
+        b.letter(23, 79, ',');
         b.ask("e(A,B),e(B,C),e(C,D),e(D,1)", "20");
         b.letter(0, -1, "76");
-        b.letter(0, 75, String.valueOf((int) ')'));
+        b.letter(0, 75, ')');
         b.letter(0, 76, Bench.NONE);
         b.ask("e(A,B),e(B,C),e(C,D),g(D,E)", "20");
         b.letter(0, -1, "80");
-        b.letter(0, 79, String.valueOf((int) ')'));
+        b.letter(0, 79, ')');
     }
 
     private static void wrongNumbers(Due due) {

@@ -1,10 +1,13 @@
 import java.util.ArrayList;
 import java.util.List;
 import java.util.Random;
+import java.util.function.LongSupplier;
 
 /** Runs of calls drawn from fixed seeds, on a GoalDesk and on a PlainDesk: each answer must be the same. */
 public final class SecondOpinionTest {
-    private static final int RUNS = 3000;
+    private static final int RUNS = 10000;
+    // Nothing is promised of later calls.
+    private static final int MOST_CALLS = 512;
     private static final String[] LIBRARY = {
         "a(n,L,L)", "a(c(H,T),L,c(H,R)):a(T,L,R)", "m(X,c(X,Y))", "m(X,c(Y,Z)):m(X,Z)", "p(1)", "p(2)", "p(3)",
         "q(X):p(X),!", "q(X):X=f(X)", "r:r", "r(X,Y):p(X),p(Y),X<Y", "s", "s:p(X),X~2,s", "d(X,Y):X~Y,p(X),p(Y)",
@@ -24,6 +27,7 @@ public final class SecondOpinionTest {
     private final GoalDesk desk = new GoalDesk();
     private final PlainDesk plain = new PlainDesk();
     private final List<String> told = new ArrayList<>();
+    private int calls = 0;
 
     private SecondOpinionTest(int run, Due due) {
         this.run = run;
@@ -43,16 +47,15 @@ public final class SecondOpinionTest {
         for (int i = random.nextInt(10); i >= 0; i--) {
             clauseAdded();
         }
-        for (int i = 0; i < 25 && due.wrong() == 0; i++) {
+        while (calls < MOST_CALLS && due.wrong() == 0) {
             switch (random.nextInt(20)) {
                 case 0:
                     int gone = random.nextInt(14) - 1;
-                    same("drop(" + gone + ")", Due.answer(() -> { desk.drop(gone); return 0; }),
-                        Due.answer(() -> { plain.drop(gone); return 0; }));
+                    same("drop " + gone, () -> { desk.drop(gone); return 0; }, () -> { plain.drop(gone); return 0; });
                     break;
                 case 1:
                     long eight = random.nextLong();
-                    same("type(" + eight + ")", Due.answer(() -> desk.type(eight)), Due.answer(() -> plain.type(eight)));
+                    same("type " + eight, () -> desk.type(eight), () -> plain.type(eight));
                     break;
                 case 2: case 3:
                     clauseAdded();
@@ -66,42 +69,50 @@ public final class SecondOpinionTest {
 
     private void clauseAdded() {
         type(random.nextInt(4) == 0 ? clause() : LIBRARY[random.nextInt(LIBRARY.length)]);
-        same("add()", Due.answer(desk::add), Due.answer(plain::add));
+        same("add", desk::add, plain::add);
     }
 
     private void question() {
         type(random.nextInt(3) > 0 ? goals(6) : QUESTIONS[random.nextInt(QUESTIONS.length)]);
-        same("ask()", Due.answer(desk::ask), Due.answer(plain::ask));
+        same("ask", desk::ask, plain::ask);
         look();
-        for (int i = random.nextInt(12); i > 0 && desk.count(3) > 0; i--) {
-            same("next()", Due.answer(desk::next), Due.answer(plain::next));
+        for (int i = random.nextInt(12); i > 0 && plain.count(3) > 0; i--) {
+            same("next", desk::next, plain::next);
             look();
         }
     }
 
     private void look() {
-        for (int what = -1; what <= 7; what++) {
+        for (int what = 0; what <= 6; what++) {
             int w = what;
-            same("count(" + w + ")", Due.answer(() -> desk.count(w)), Due.answer(() -> plain.count(w)));
+            same("count " + w, () -> desk.count(w), () -> plain.count(w));
         }
-        for (int v : new int[] {-1, 0, 22, 23, 24, 25, 26}) {
-            same("sleeping(" + v + ")", Due.answer(() -> desk.sleeping(v)), Due.answer(() -> plain.sleeping(v)));
-            String length = Due.answer(() -> plain.letter(v, -1));
-            int last = length.startsWith("throws") ? -1 : Integer.parseInt(length);
-            for (int at = last < 0 ? -1 : -2; at <= last; at++) {
-                int i = at;
-                same("letter(" + v + ", " + i + ")", Due.answer(() -> desk.letter(v, i)),
-                    Due.answer(() -> plain.letter(v, i)));
-            }
+        lookAt(random.nextInt(28) - 1);
+        for (int v = 'V' - 'A'; v <= 'Z' - 'A' && plain.count(3) > 0; v++) {
+            lookAt(v);
         }
     }
 
-    private void same(String call, String got, String wanted) {
-        if (!call.startsWith("count") && !call.startsWith("letter") && !call.startsWith("sleeping")) {
-            told.add(call + " -> " + wanted);
+    private void lookAt(int v) {
+        same("sleeping " + v, () -> desk.sleeping(v), () -> plain.sleeping(v));
+        same("the length of " + v, () -> desk.letter(v, -1), () -> plain.letter(v, -1));
+        int sample = random.nextInt(6);
+        String length = Due.answer(() -> plain.letter(v, -1));
+        for (int i = sample; !length.startsWith("throws") && i <= Integer.parseInt(length); i += 1 + sample) {
+            int at = i;
+            same("letter " + v + " " + at, () -> desk.letter(v, at), () -> plain.letter(v, at));
         }
-        String what = got.equals(wanted) ? call : "run " + run + " after " + told + ": " + call;
-        due.same(what, got, wanted);
+    }
+
+    private void same(String call, LongSupplier got, LongSupplier wanted) {
+        if (calls >= MOST_CALLS) {
+            return;
+        }
+        calls++;
+        String answer = Due.answer(got);
+        String opinion = Due.answer(wanted);
+        told.add(call + " -> " + opinion);
+        due.same(answer.equals(opinion) ? call : "run " + run + " after " + told + ": " + call, answer, opinion);
     }
 
     private void type(String right) {
@@ -113,7 +124,7 @@ public final class SecondOpinionTest {
                 eight = eight << 8 | c;
             }
             long e = eight;
-            same("type", Due.answer(() -> desk.type(e)), Due.answer(() -> plain.type(e)));
+            same("type " + e, () -> desk.type(e), () -> plain.type(e));
         }
     }
 

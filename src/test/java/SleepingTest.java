@@ -36,21 +36,33 @@ public final class SleepingTest {
         b.next("11");
         b.sleeping('X', 1);
         b.sleeping('Y', 3);
+        b.ask("Y?q,b(X,Y),X?q", "5");
+        b.sleeping('X', 2);
+        b.sleeping('Y', 2);
+        b.next("8");
+        b.sleeping('X', 1);
+        b.sleeping('Y', 1);
+        b.next("12");
+        b.sleeping('X', 1);
+        b.sleeping('Y', 2);
+        b.ask("X=Y", "2");
+        b.sleeping('X', 0);
+        b.sleeping('Y', 0);
         b.ask("X?q,Z?q,Z=f(Y)", Bench.NONE);
         b.sleeping('X', -1);
     }
 
     private static void wrongNumbers(Due due) {
         Bench b = new Bench(due);
-        b.same("sleeping(-1)", Due.answer(() -> b.desk.sleeping(-1)), Bench.BAD);
-        b.same("sleeping(26)", Due.answer(() -> b.desk.sleeping(26)), Bench.BAD);
+        b.sleeping(-1, Bench.BAD);
+        b.sleeping(26, Bench.BAD);
         b.sleeping('A', -1);
         b.sleeping('Z', -1);
         b.ask("A?b,Z?b", "2");
         b.sleeping('A', 1);
         b.sleeping('Z', 1);
         b.sleeping('B', -1);
-        b.same("sleeping(26)", Due.answer(() -> b.desk.sleeping(26)), Bench.BAD);
-        b.same("sleeping", Due.answer(() -> b.desk.sleeping(Integer.MIN_VALUE)), Bench.BAD);
+        b.sleeping(26, Bench.BAD);
+        b.sleeping(Integer.MIN_VALUE, Bench.BAD);
     }
 }

@@ -24,15 +24,11 @@ public final class TypeTest {
 
     private static void whichBytesAreRight(Due due) {
         for (int shift = 0; shift < 64; shift += 8) {
-            Bench b = new Bench(due);
             for (long one = 1; one < 256; one++) {
+                Bench b = new Bench(due);
                 boolean right = one >= 33 && one <= 126;
-                int before = b.desk.count(1);
-                b.type(one << shift, right ? String.valueOf(before + 1) : Bench.BAD);
-                b.count(1, right ? before + 1 : before);
-                if (b.desk.count(1) == 48) {
-                    b.add("", Bench.BAD);
-                }
+                b.type(one << shift, right ? "1" : Bench.BAD);
+                b.count(1, right ? 1 : 0);
             }
         }
         Bench b = new Bench(due);
