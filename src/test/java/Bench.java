@@ -75,6 +75,14 @@ final class Bench {
         same("ask()", call(desk::ask), wanted);
     }
 
+    /** Reads the text, as a clause or as a question: whether it can be read is all that is looked at. */
+    void read(String text, boolean clause, boolean right) {
+        type(text);
+        last = (clause ? "add " : "ask ") + text;
+        String got = clause ? call(desk::add) : call(desk::ask);
+        same("reading", String.valueOf(!got.equals(BAD)), String.valueOf(right));
+    }
+
     void next(String wanted) {
         same("next()", call(desk::next), wanted);
         last = last.endsWith(" next") ? last : last + " next";
@@ -89,18 +97,23 @@ final class Bench {
     }
 
     void value(char v, String wanted) {
-        String length = call(() -> desk.letter(v - 'A', -1));
+        String got = written(v - 'A');
+        same("the value of " + v, got, wanted);
+        letter(v - 'A', got.length(), NONE);
+    }
+
+    /** The whole text of a variable's value, or what its length throws. */
+    private String written(int v) {
+        String length = call(() -> desk.letter(v, -1));
         if (length.startsWith("throws")) {
-            same("the value of " + v, length, wanted);
-            return;
+            return length;
         }
         StringBuilder got = new StringBuilder();
         for (int i = 0; i < Integer.parseInt(length); i++) {
             int at = i;
-            got.append((char) Integer.parseInt(call(() -> desk.letter(v - 'A', at))));
+            got.append((char) Integer.parseInt(call(() -> desk.letter(v, at))));
         }
-        same("the value of " + v, got.toString(), wanted);
-        letter(v - 'A', got.length(), NONE);
+        return got.toString();
     }
 
     void sleeping(int v, String wanted) {
@@ -120,5 +133,32 @@ final class Bench {
         count(4, choices);
         count(5, aparts);
         count(6, variables);
+    }
+
+    void nothingAsked() {
+        counts(0, 0, 0, 0);
+        sleeping('X', -1);
+        letter('X' - 'A', -1, NONE);
+        next(NONE);
+    }
+
+    /** All that can be looked at without changing anything, in one text; some 70 calls. */
+    String seen() {
+        StringBuilder all = new StringBuilder();
+        for (int what = 0; what <= 6; what++) {
+            int w = what;
+            all.append("count ").append(w).append(' ').append(call(() -> desk.count(w))).append('\n');
+        }
+        for (int v = 0; v < 26; v++) {
+            int one = v;
+            all.append((char) ('A' + v)).append(' ').append(call(() -> desk.sleeping(one))).append(' ');
+            all.append(written(v)).append('\n');
+        }
+        return all.toString();
+    }
+
+    /** That this object looks as the other one does. */
+    void sameAs(Bench other) {
+        same("all that is seen", seen(), other.seen());
     }
 }

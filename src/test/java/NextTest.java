@@ -3,18 +3,22 @@ public final class NextTest {
     public static void main(String[] args) {
         Due due = new Due();
         oneAfterAnother(due);
+        noFurtherAnswer(due);
         nothingIsAsked(due);
-        fiveHundredSteps(due);
-        oneMore(due);
-        manyVariables(due);
-        afterAnEndlessOne(due);
-        nextThatThrows(due);
+        addAndDropDidSomething(due);
+        addAndDropDidNothing(due);
+        theTextStays(due);
+        tooManySteps(due);
+        noDigits(due);
+        answersWithoutSteps(due);
         due.end();
     }
 
+    /** "The next ANSWER, after FAILING"; "answers the STEPS since ask began". */
     private static void oneAfterAnother(Due due) {
         Bench b = new Bench(due, "p(1)", "p(2)", "p(3)");
         b.ask("p(X),p(Y),X<Y", "7");
+        b.value('X', "1");
         b.value('Y', "2");
         b.next("9");
         b.value('X', "1");
@@ -24,78 +28,118 @@ public final class NextTest {
         b.value('X', "2");
         b.value('Y', "3");
         b.next(Bench.NONE);
-        b.value('X', Bench.NONE);
-        b.counts(0, 0, 0, 0);
-        b.next(Bench.NONE);
-        b.ask("p(3)", "4");
-        b.next(Bench.NONE);
+        b.nothingAsked();
+    }
+
+    /** "None": then nothing is asked any more, and the next call finds nothing either. */
+    private static void noFurtherAnswer(Due due) {
+        Bench b = new Bench(due, "p(1)", "p(2)");
+        String[][] asked = {{"!", "1"}, {"X=1", "2"}, {"X?z", "1"}, {"X~1", "2"}, {"p(X),!", "3"}, {"p(2)", "3"},
+            {"p(X),X~1", "7"}};
+        for (String[] one : asked) {
+            b.ask(one[0], one[1]);
+            b.next(Bench.NONE);
+            b.nothingAsked();
+            b.next(Bench.NONE);
+            b.count(0, -1);
+            b.count(2, 2);
+        }
     }
 
     private static void nothingIsAsked(Due due) {
-        Bench b = new Bench(due, "p(1)", "p(2)");
+        Bench b = new Bench(due, "p(1)", "p(2)", "l:l");
         b.next(Bench.NONE);
+        String[][] asked = {{"", Bench.BAD}, {"p(", Bench.BAD}, {"p(3)", Bench.NONE}, {"l", Bench.STATE},
+            {"1<a", Bench.UNFIT}};
+        for (String[] one : asked) {
+            b.ask("p(X)", "2");
+            b.ask(one[0], one[1]);
+            b.next(Bench.NONE);
+            b.next(Bench.NONE);
+        }
+    }
+
+    /** "Or add or drop did something". */
+    private static void addAndDropDidSomething(Due due) {
+        Bench b = new Bench(due, "p(1)", "p(2)", "p(3)");
         b.ask("p(X)", "2");
-        b.type("p(Y)");
+        b.add("z", "4");
+        b.nothingAsked();
+        b.ask("p(X)", "2");
+        b.drop(3, "gone");
+        b.nothingAsked();
+    }
+
+    private static void addAndDropDidNothing(Due due) {
+        Bench b = new Bench(due, "p(1)", "p(2)", "p(3)", "p(4)", "p(5)", "z", "z", "z", "z", "z", "z");
+        b.ask("p(X)", "2");
+        b.add("p(", Bench.BAD);
         b.next("3");
-        b.value('X', "2");
-        b.add("", "3");
-        b.next(Bench.NONE);
+        b.drop(11, Bench.BAD);
+        b.next("4");
+        b.drop(-1, Bench.BAD);
+        b.next("5");
+        b.value('X', "4");
+        b.add("z", "12");
         b.ask("p(X)", "2");
-        b.drop(0, "gone");
+        b.add("p(6)", Bench.STATE);
+        b.next("3");
+        b.add("p(", Bench.STATE);
+        b.next("4");
+        b.drop(12, Bench.BAD);
+        b.next("5");
+        b.next("6");
+        b.value('X', "5");
+        b.counts(5, 0, 0, 1);
         b.next(Bench.NONE);
     }
 
-    /** Each answer is seen twice, the second time without a STEP; 500 may be taken, and not one more. */
-    private static void fiveHundredSteps(Due due) {
-        Bench b = new Bench(due, "r", "r:p,r", "p", "p", "z", "z");
-        b.ask("r,z", "2");
-        b.next("2");
-        for (int steps = 5; steps <= 500; steps += 3) {
-            b.next(String.valueOf(steps));
-            b.next(String.valueOf(steps));
-        }
+    /** next reads nothing: what was typed stays, whatever it answers. */
+    private static void theTextStays(Due due) {
+        Bench b = new Bench(due, "p(1)", "p(2)");
+        b.type("p(Y)");
+        b.next(Bench.NONE);
+        b.count(1, 4);
+        b.ask("", "2");
+        b.type("p(Z)");
+        b.next("3");
+        b.value('Y', "2");
+        b.count(1, 4);
+        b.next(Bench.NONE);
+        b.count(1, 4);
+        b.ask("", "2");
+        b.value('Z', "1");
+    }
+
+    private static void tooManySteps(Due due) {
+        Bench b = new Bench(due, "p(1)", "p(2):l", "p(3)", "l:l");
+        b.ask("p(X)", "2");
+        b.type("p(");
         b.next(Bench.STATE);
-        b.counts(0, 0, 0, 0);
-        b.next(Bench.NONE);
+        b.count(0, -1);
+        b.count(1, 2);
+        b.count(2, 4);
+        b.nothingAsked();
     }
 
-    /** As before, but the one too many is the 501st. */
-    private static void oneMore(Due due) {
-        Bench b = new Bench(due, "r", "r:p,r", "p", "p");
-        b.ask("r", "1");
-        for (int steps = 3; steps <= 499; steps += 2) {
-            b.next(String.valueOf(steps));
-        }
-        b.counts(250, 250, 0, 0);
-        b.next(Bench.STATE);
-        b.next(Bench.NONE);
-    }
-
-    private static void manyVariables(Due due) {
-        Bench b = new Bench(due, "n(z)", "n(s(X)):n(X)");
-        b.ask("Y?q,n(X)", "3");
-        b.value('X', "z");
-        for (int k = 1; k <= 165; k++) {
-            b.next(String.valueOf(3 + 3 * k));
-        }
-        b.counts(166, 1, 0, 167);
-        b.sleeping('Y', 1);
-        b.letter(23, -1, "80");
-        b.next(Bench.STATE);
-    }
-
-    private static void afterAnEndlessOne(Due due) {
-        Bench b = new Bench(due, "l:l");
-        b.ask("l", Bench.STATE);
-        b.ask("!", "1");
-        b.next(Bench.NONE);
-    }
-
-    private static void nextThatThrows(Due due) {
+    private static void noDigits(Due due) {
         Bench b = new Bench(due, "p(1)", "p(a)", "p(2)");
         b.ask("p(X),X<3", "3");
+        b.type("p(");
         b.next(Bench.UNFIT);
+        b.count(0, -1);
+        b.count(1, 2);
+        b.count(2, 3);
+        b.nothingAsked();
+    }
+
+    /** FAILING is no STEP, so the same number may be answered again. */
+    private static void answersWithoutSteps(Due due) {
+        Bench b = new Bench(due, "w", "w", "w");
+        b.ask("w", "1");
+        b.next("1");
+        b.next("1");
+        b.counts(3, 0, 0, 0);
         b.next(Bench.NONE);
-        b.value('X', Bench.NONE);
     }
 }
