@@ -12,6 +12,7 @@ public final class AskTest {
         alsoIfItIsBad(due);
         clausesAndPlaceStay(due);
         theQuestionsVariables(due);
+        manyLongQuestions(due);
         due.end();
     }
 
@@ -135,5 +136,24 @@ public final class AskTest {
         b.count(6, 24);
         b.value('X', "_");
         b.value('Y', Bench.NONE);
+    }
+
+    /** Nothing that earlier questions bound, put to sleep or settled takes room from a later one. */
+    private static void manyLongQuestions(Due due) {
+        Bench b = new Bench(due, "a(X):X?z", "b(X):a(X),a(X),X?z,X?z,X?z", "c(X):b(X),b(X),b(X),b(X)",
+            "d(X):c(X),c(X),c(X),c(X),c(X),c(X)", "e(X):X~1,X~2,X~3,X~4", "f:e(5),e(5),e(5),e(5),e(5),e(5),e(5)",
+            "g:f,f,f,f", "h(X):e(X)", "h(X)");
+        for (int i = 0; i < 20; i++) {
+            b.ask("d(X)", "278");
+            b.sleeping('X', 120);
+            b.count(6, 80);
+            b.ask("g", "285");
+            b.count(5, 0);
+            b.ask("h(X),X=5", "18");
+            b.count(5, 0);
+            b.next("21");
+            b.count(5, 0);
+            b.value('X', "5");
+        }
     }
 }

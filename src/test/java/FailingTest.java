@@ -45,6 +45,15 @@ public final class FailingTest {
         b.sleeping('X', 0);
         b.next("7");
         b.sleeping('X', 1);
+        // Those of another variable stay.
+        b.ask("A?z,X?z,b(X),X?z", "7");
+        b.sleeping('X', 4);
+        b.next("9");
+        b.sleeping('X', 2);
+        b.sleeping('A', 1);
+        b.next("12");
+        b.sleeping('X', 3);
+        b.sleeping('A', 1);
     }
 
     private static void whatWasMoved(Due due) {
@@ -80,6 +89,13 @@ public final class FailingTest {
         b.next("13");
         b.counts(3, 0, 1, 3);
         b.next(Bench.NONE);
+        // Others wait on.
+        b.ask("Y~9,X~1,b(X)", "8");
+        b.counts(1, 1, 1, 2);
+        b.next("13");
+        b.counts(2, 1, 3, 3);
+        b.next("19");
+        b.counts(3, 0, 2, 4);
         // What was settled before the choice stays so.
         b.ask("X~1,X=2,b(Y)", "7");
         b.next("10");
